@@ -17,8 +17,10 @@ public final class PennyLedge {
     private static final int MOST_HIGH = 4;
     private static final int MOST_COINS = 24;
     private static final int MOST_BEAT = 9999;
-    /** Above this BEAT the searches are refused, so that none of their trials passes MOST_BEAT. */
+    /** Above these BEATs searches, rest and falls are refused, so that none of their trials passes MOST_BEAT. */
     private static final int LAST_SEARCHED_BEAT = 9900;
+    private static final int LAST_RESTING_BEAT = 9930;
+    private static final int LAST_FALLING_BEAT = 9939;
 
     private static final int HAND = 100;
     private static final int WON = 101;
@@ -261,7 +263,7 @@ public final class PennyLedge {
         if (!isCoin(coin)) {
             return found(BEYOND);
         }
-        if (!shelf.isOnShelf(coin) || shelf.beat > MOST_BEAT - 60) {
+        if (!shelf.isOnShelf(coin) || shelf.beat > LAST_FALLING_BEAT) {
             return found(STATE);
         }
         trial.become(shelf);
@@ -275,7 +277,7 @@ public final class PennyLedge {
     }
 
     public int rest() {
-        if (shelf.beat > 9930) {
+        if (shelf.beat > LAST_RESTING_BEAT) {
             return found(STATE);
         }
         int stroke = shelf.settings[STROKE];
@@ -361,7 +363,10 @@ public final class PennyLedge {
                 best = way;
             }
         }
-        return best / 49 * 100 + best / 7 % 7 * 10 + best % 7;
+        int first = columnOf(best, MOST_DROPS, 1);
+        int second = columnOf(best, MOST_DROPS, 2);
+        int third = columnOf(best, MOST_DROPS, 3);
+        return 100 * first + 10 * second + third;
     }
 
     public int threeBring(int n) {
@@ -559,7 +564,7 @@ public final class PennyLedge {
             return found(FULL);
         }
         for (int i = n - 1; i >= 0; i--) {
-            tape.append(bytes >>> 8 * i & 255);
+            tape.append((bytes >>> (8 * i)) & 255);
         }
         return tape.length;
     }
@@ -583,7 +588,7 @@ public final class PennyLedge {
     // ---- spots, sheets
 
     public int hold(int spot, int coin) {
-        if (!within(spot, 0, SPOTS - 1) || coin != -1 && !isCoin(coin)) {
+        if (!within(spot, 0, SPOTS - 1) || (coin != -1 && !isCoin(coin))) {
             return found(BEYOND);
         }
         shelf.spots[spot] = coin;
@@ -602,7 +607,7 @@ public final class PennyLedge {
     }
 
     public int sheet(int s, int bits, int n) {
-        if (!isSheet(s) || bits != 0 && bits != 8 && bits != 16 && bits != 32) {
+        if (!isSheet(s) || !isWidth(bits)) {
             return found(BEYOND);
         }
         if (n < 0) {
@@ -779,6 +784,10 @@ public final class PennyLedge {
 
     private static boolean isSheet(int s) {
         return within(s, 0, SHEETS - 1);
+    }
+
+    private static boolean isWidth(int bits) {
+        return bits == 0 || bits == 8 || bits == 16 || bits == 32;
     }
 
     private static boolean isSetting(int what, int v) {
@@ -1078,7 +1087,7 @@ public final class PennyLedge {
         int worthOf(int bits) {
             int sum = 0;
             for (int coin = 0; coin < coins; coin++) {
-                if ((bits >>> coin & 1) == 1) {
+                if (((bits >>> coin) & 1) == 1) {
                     sum += WORTH[kinds[coin]];
                 }
             }

@@ -236,6 +236,11 @@ public final class BeatsTest {
         Due.is("17: two high", y.ahead(60, 3), 2);
         y.beats(2);
         Due.is("17: those gone before do not count", y.ahead(5, 1), 0);
+        PennyLedge won = Due.shelf(Due.times(4, "big at 3 5"), "force 0");
+        won.beats(1);
+        Due.is("17: WORTH of those WON in them alone", won.ahead(60, 0), 2);
+        won.beats(1);
+        Due.is("17: none more", won.ahead(60, 0), 0);
         Due.is("17: n -1", y.ahead(-1, 0), Due.BEYOND);
         Due.is("17: n 61", y.ahead(61, 0), Due.BEYOND);
         Due.is("17: what -1", y.ahead(0, -1), Due.BEYOND);

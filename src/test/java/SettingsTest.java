@@ -59,6 +59,7 @@ public final class SettingsTest {
         odd.set(2, 3);
         odd.lift(3, 5);
         Due.is("33: nothing WON", odd.stroke(1), 1);
+        Due.is("33: n 60", x.stroke(60), 1);
         Due.is("33: n 0", x.stroke(0), Due.BEYOND);
         Due.is("33: n -1", x.stroke(-1), Due.BEYOND);
         Due.is("33: n 61", x.stroke(61), Due.BEYOND);
@@ -93,6 +94,7 @@ public final class SettingsTest {
         Due.is("35: of all that let the same be WON the first", x.kindFor(0, 1), 0);
         x.set(0, 7);
         Due.is("35: a light one", x.kindFor(0, 1), 0);
+        Due.is("35: n 60", x.kindFor(0, 60), 0);
         Due.is("35: kinds stay", x.of(0, 0), 0);
         x.change(0, 2);
         Due.is("35: light again", x.kindFor(0, 1), 0);

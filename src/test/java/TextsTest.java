@@ -111,6 +111,11 @@ public final class TextsTest {
         fault("sides 4", 6);
         fault("sides -1", 6);
         fault("coin#", 4);
+        fault("coinz", 0);
+        fault("coin{", 4);
+        fault("coin`", 4);
+        fault("force 3:", 7);
+        fault("force 3/", 7);
         fault("Coin", 0);
         fault("coin\tat 3 3", 4);
         fault("coin;\u00e9", 5);
