@@ -1,6 +1,13 @@
+import java.lang.reflect.InvocationTargetException;
+import java.lang.reflect.Method;
 import java.nio.charset.StandardCharsets;
+import java.util.Arrays;
+import java.util.Comparator;
 
-/** What the tests share: answers that are due, findings by name, shelves made from texts. */
+/**
+ * What the tests share: answers that are due, findings by name, shelves made from texts. An object is promised 512
+ * calls, so what makes a shelf here takes as few as it can.
+ */
 final class Due {
     static final int BEYOND = -1000001;
     static final int FULL = -1000002;
@@ -10,6 +17,8 @@ final class Due {
     static final int MISSING = -1000006;
     static final int SIZE = -1000007;
 
+    private static String test = "";
+    private static int tests = 0;
     private static int asked = 0;
     private static int wrong = 0;
 
@@ -20,13 +29,41 @@ final class Due {
         asked++;
         if (got != want) {
             wrong++;
-            System.out.println(call + " answered " + got + ", due is " + want);
+            System.out.println(test + call + " answered " + got + ", due is " + want);
         }
     }
 
+    /** Each method of a class without arguments is a test: none can be forgotten. */
+    static void each(Class<?> all) throws ReflectiveOperationException {
+        Method[] methods = all.getDeclaredMethods();
+        Arrays.sort(methods, Comparator.comparing(Method::getName));
+        for (Method method : methods) {
+            if (method.isSynthetic() || method.getParameterCount() != 0 || method.getReturnType() != void.class) {
+                continue;
+            }
+            test = method.getName() + ": ";
+            tests++;
+            try {
+                method.setAccessible(true);
+                method.invoke(null);
+            } catch (InvocationTargetException e) {
+                wrong++;
+                System.out.println(test + e.getCause());
+            }
+        }
+        System.out.println(tests + " tests");
+        end();
+    }
+
     static void feed(PennyLedge x, String text) {
-        for (byte b : text.getBytes(StandardCharsets.ISO_8859_1)) {
-            x.feed(b, 1);
+        byte[] bytes = text.getBytes(StandardCharsets.ISO_8859_1);
+        for (int i = 0; i < bytes.length; i += 4) {
+            int n = Math.min(4, bytes.length - i);
+            int together = 0;
+            for (int j = 0; j < n; j++) {
+                together = together << 8 | bytes[i + j] & 255;
+            }
+            x.feed(together, n);
         }
     }
 
@@ -57,8 +94,8 @@ final class Due {
 
     /** Lets beats go until BEAT is as told. */
     static void toBeat(PennyLedge x, int beat) {
-        while (x.now(0) < beat) {
-            x.beats(Math.min(60, beat - x.now(0)));
+        for (int left = beat - x.now(0); left > 0; left -= 60) {
+            x.beats(Math.min(60, left));
         }
     }
 

@@ -11,6 +11,8 @@ import java.util.TreeMap;
 public final class RunsTest {
     private static final int RUNS = Integer.getInteger("runs", 1500);
     private static final int CALLS = 200;
+    /** What is promised of one object. */
+    private static final int MOST_CALLS = 512;
     private static final String[] ITEMS = {
         "coin", "big", "watch", "crown", "bent", "token", "lead", "force", "stroke", "sides"};
     private static final String[] COSTLY = {"three", "threeBring", "soonest", "firstFor", "ways", "total", "luck", "wait"};
@@ -29,7 +31,7 @@ public final class RunsTest {
             plain = new PlainLedge();
             calls.clear();
             buildShelf(run);
-            for (int i = 0; i < CALLS && wrong == 0; i++) {
+            for (int i = 0; i < CALLS && calls.size() < MOST_CALLS && wrong == 0; i++) {
                 if (chance.nextInt(15) == 0) {
                     call("undo");
                 }
@@ -68,6 +70,9 @@ public final class RunsTest {
     }
 
     private static long call(String name, int... args) throws Exception {
+        if (calls.size() >= MOST_CALLS) {
+            return 0;
+        }
         Class<?>[] ints = new Class<?>[args.length];
         Object[] boxed = new Object[args.length];
         for (int i = 0; i < args.length; i++) {
