@@ -123,6 +123,16 @@ public final class CellEdgesTest {
         Due.is("COLUMN 0, ROW 0", first.of(0, 1), 0);
     }
 
+    private static void askingChangesNothing() {
+        for (int what = 0; what < 6; what++) {
+            int asked = what;
+            Twin.leaves(Twin::rich, x -> x.of(0, asked), x -> x.of(3, asked), x -> x.of(13, asked));
+        }
+        Twin.leaves(Twin::rich, x -> x.height(0, 0), x -> x.height(6, 5), x -> x.seen(3, 5, 0), x -> x.seen(3, 5, 1));
+        Twin.leaves(Twin::rich, x -> x.run(0), x -> x.run(6), x -> x.weight(0), x -> x.weight(6), x -> x.moved());
+        Twin.leaves(Twin::rich, x -> x.set(0, x.set(0, 3)), x -> x.seed(x.seed(3)), x -> x.change(3, x.change(3, 3)));
+    }
+
     private static void ofPlaceInStack() {
         PennyLedge x = Due.shelf(Due.times(4, "coin at 6 5"));
         for (int i = 0; i < 4; i++) {

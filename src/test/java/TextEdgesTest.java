@@ -95,7 +95,10 @@ public final class TextEdgesTest {
     }
 
     private static void textOfOneItem() {
-        Due.is("big", Due.tell(new PennyLedge(), "big"), 1);
+        PennyLedge x = new PennyLedge();
+        Due.is("big", Due.tell(x, "big"), 1);
+        Due.is("its KIND", x.of(0, 0), 1);
+        Due.is("in the HAND without at", x.of(0, 1), 100);
         Due.is("sides", Due.tell(new PennyLedge(), "sides0"), 1);
     }
 
